@@ -69,8 +69,11 @@ final class Model {
 
     private int stepOf(int maker) {
         TreeSet<Integer> set = marks(maker, NONE);
-        for (int s = 9999; s >= 1; s--) {
-            boolean all = set.size() >= 2;
+        if (set.size() < 2) {
+            return 0;
+        }
+        for (int s = set.last() - set.first(); s >= 1; s--) {
+            boolean all = true;
             for (int a : set) {
                 all = all && (a - set.first()) % s == 0;
             }

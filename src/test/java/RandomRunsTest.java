@@ -175,10 +175,37 @@ public final class RandomRunsTest {
         }
     }
 
+    private void alike(String call, int got, int want) {
+        due(call, got, want);
+        due("digest after " + call, tank.digest(), model.digest());
+    }
+
+    /** Sixty finds of one maker: the longest fractions. */
+    private void goFull() {
+        int unlike = 1 + random.nextInt(20), weeks = 1 + random.nextInt(30);
+        for (int i = 0; i < 60; i++) {
+            int n = (i * 7 + run) % 150, w = i < 12 ? random.nextInt(weeks) : -1, d = random.nextInt(unlike);
+            alike("find " + i, tank.find(0, n, w, d, i % 4), model.find(0, n, w, d, i % 4));
+        }
+        for (int n = 0; n <= 21; n++) {
+            alike("thereAre(0, " + n + ")", tank.thereAre(0, n), model.thereAre(0, n));
+        }
+        for (int n = 135; n <= 151; n++) {
+            alike("odds " + n, tank.odds(0, 0, 1, n), model.odds(0, 0, 1, n));
+            alike("atLeast " + n, tank.atLeast(0, 0, 1, n), model.atLeast(0, 0, 1, n));
+        }
+        for (int w = 1; w <= 30; w++) {
+            alike("chance(0, " + w + ")", tank.chance(0, w), model.chance(0, w));
+        }
+    }
+
     public static void main(String[] args) {
         int runs = args.length > 0 ? Integer.parseInt(args[0]) : 240;
         for (int run = 0; run < runs; run++) {
             new RandomRunsTest(run).go();
+        }
+        for (int run = 0; run < 20; run++) {
+            new RandomRunsTest(run).goFull();
         }
         System.out.println(wrong == 0 ? "all answers are as due" : wrong + " answers are not as due");
         if (wrong != 0) {
