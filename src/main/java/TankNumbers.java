@@ -40,9 +40,6 @@ public final class TankNumbers {
                 || !within(front, 0, FRONTS - 1)) {
             return BAD;
         }
-        if (finds.size >= Finds.ROOM) {
-            return FULL;
-        }
         return finds.add(maker, number, week, mould, front);
     }
 
@@ -180,9 +177,6 @@ public final class TankNumbers {
                 || !within(high, low, NUMBERS - 1)) {
             return BAD;
         }
-        if (words.size >= Words.ROOM) {
-            return FULL;
-        }
         return words.add(length, letters, low, high);
     }
 
@@ -244,9 +238,6 @@ public final class TankNumbers {
         if (!within(agent, 0, AGENTS - 1) || !within(said, 0, NUMBERS - 1)
                 || !within(so, 0, NUMBERS - 1)) {
             return BAD;
-        }
-        if (agents.size >= Agents.ROOM) {
-            return FULL;
         }
         return agents.add(agent, said, so);
     }
