@@ -790,6 +790,7 @@ public final class TankNumbers {
         private final Natural weight = new Natural();
         private final Natural whole = new Natural();
         private final Natural part = new Natural();
+        private final Natural goal = new Natural();
         private int found;
         private int lowest;
         private int highest;
@@ -821,29 +822,25 @@ public final class TankNumbers {
 
         /** Weights never grow with N, so the narrowest span begins at the lowest. */
         int spanEnd(int a, int b) {
-            part.become(0);
+            goal.copy(whole);
+            goal.multiply(a);
             begin();
             weight.multiply(b);
-            whole.multiply(a);
+            part.copy(weight);
             int n = lowest;
-            part.add(weight);
-            while (n < highest && part.compareWith(whole) < 0) {
+            while (n < highest && part.compareWith(goal) < 0) {
                 n++;
                 step(n);
                 part.add(weight);
             }
-            whole.divide(a);
             return n;
         }
 
-        /** The weight of the lowest, from that of as many things as were found: one set alone. */
+        /** Odds are shares, so the weight of the lowest may be any that keeps the others whole. */
         private void begin() {
             weight.become(1);
             for (int power : PRIME_POWERS) {
                 weight.multiply(power);
-            }
-            for (int n = found + 1; n <= lowest; n++) {
-                step(n);
             }
         }
 
