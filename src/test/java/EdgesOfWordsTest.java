@@ -400,6 +400,17 @@ public final class EdgesOfWordsTest {
         }
     }
 
+    static void promise18FewerWithEachWord() {
+        TankNumbers x = new TankNumbers();
+        Bench.answers(x, 1023, "may", 0);
+        x.word(1, 0, 3, 4);
+        Bench.answers(x, 8 + 16, "may", 0);
+        x.word(1, 1, 4, 4);
+        Bench.answers(x, 8, "may", 0);
+        x.word(1, 2, 3, 3);
+        Bench.answers(x, 0, "may", 0);
+    }
+
     static void promise18BadWithoutKeysToo() {
         Bench.refused(() -> withWord(1, 0, 10, 10), BAD, "may", 6);
         Bench.refused(() -> withWord(1, 0, 10, 10), BAD, "may", -1);
@@ -443,6 +454,14 @@ public final class EdgesOfWordsTest {
         // letters 0 1 1 0
         Bench.answers(new TankNumbers(), 9889, "reads", 4, 42, 1);
         Bench.answers(new TankNumbers(), 110, "reads", 4, 42, 0);
+    }
+
+    static void promise19AWordsLettersTurnedAbout() {
+        TankNumbers x = withWord(2, 6, 10, 98);
+        Bench.answers(x, 98, "reads", 2, 6, 1);
+        Bench.answers(x, 98, "reads", 2, 1, 1);
+        Bench.answers(x, 10, "reads", 2, 6, 0);
+        Bench.answers(x, 1, "reads", 2, 1, 0);
     }
 
     static void promise19WithoutKeysNone() {
