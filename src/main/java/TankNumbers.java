@@ -908,12 +908,10 @@ public final class TankNumbers {
         private boolean searched;
         private int found;
         private final int[] bits = new int[LETTERS];
-        private final int[] order = new int[LETTERS];
-        private final int[] depthOf = new int[LETTERS];
-        private int ordered;
-        private final int[] figure = new int[LETTERS];
-        private final int[] ripe = new int[ROOM];
-        private final int[] ripeUpTo = new int[LETTERS];
+        // each letter's figures in the search, from .. to: 0 .. 9, or the one that it was given
+        private final int[] least = new int[LETTERS];
+        private final int[] greatest = new int[LETTERS];
+        private int used;
 
         static boolean isRow(int length, int letters) {
             return within(length, 1, 4) && within(letters, 0, ROWS[length] - 1);
@@ -949,142 +947,149 @@ public final class TankNumbers {
             return letter >= 0 && letter < LETTERS ? bits[letter] : 0;
         }
 
-        /** The row's own letters come first in the search, so the first key found is the one. */
-        int extreme(int rowLength, int rowLetters, boolean greatest) {
-            searchAll();
-            if (found == 0) {
-                return NONE;
-            }
-            startOrder();
-            orderRow(rowLength, rowLetters);
-            orderWords();
-            seek(this, 0, 0, greatest);
-            return valueOf(rowLength, rowLetters);
-        }
-
         private void searchAll() {
             if (searched) {
                 return;
             }
             searched = true;
-            found = 0;
             Arrays.fill(bits, 0);
-            startOrder();
-            orderWords();
-            tally(this, 0, 0);
+            int open = startSearch();
+            found = open == NONE ? 0 : tally(this, 0, open);
         }
 
-        private void startOrder() {
-            ordered = 0;
-            Arrays.fill(depthOf, NONE);
+        /** The row's own letters come first in the search, so the first key met is the one. */
+        int extreme(int rowLength, int rowLetters, boolean downwards) {
+            int open = startSearch();
+            boolean met = open != NONE && seek(this, 0, open, rowLength, rowLetters, downwards);
+            return met ? valueOf(least, rowLength, rowLetters) : NONE;
         }
 
-        private void orderRow(int rowLength, int rowLetters) {
-            for (int i = 0; i < rowLength; i++) {
-                int letter = letterAt(rowLength, rowLetters, i);
-                if (depthOf[letter] == NONE && ordered < LETTERS) {
-                    depthOf[letter] = ordered;
-                    order[ordered] = letter;
-                    ordered++;
-                }
-            }
+        /** No letter has a figure yet; which words are open then. */
+        private int startSearch() {
+            Arrays.fill(least, 0);
+            Arrays.fill(greatest, FIGURES - 1);
+            used = 0;
+            return undecided((1 << size) - 1);
         }
 
-        /** A word is ripe for a look at the depth at which the last of its letters has a figure. */
-        private void orderWords() {
+        private boolean isFree(int letter) {
+            return least[letter] != greatest[letter];
+        }
+
+        private void give(int letter, int figure) {
+            least[letter] = figure;
+            greatest[letter] = figure;
+            used |= 1 << figure;
+        }
+
+        private void takeBack(int letter) {
+            used &= ~(1 << least[letter]);
+            least[letter] = 0;
+            greatest[letter] = FIGURES - 1;
+        }
+
+        /** Of the open words, as bits, those that the free letters still decide; NONE: one can't hold. */
+        private int undecided(int open) {
+            int still = 0;
             for (int w = 0; w < size; w++) {
-                orderRow(length[w], letters[w]);
-            }
-            int listed = 0;
-            for (int depth = 0; depth < LETTERS; depth++) {
-                for (int w = 0; w < size; w++) {
-                    if (ripeAt(w) == depth && listed < ROOM) {
-                        ripe[listed] = w;
-                        listed++;
+                if ((open & 1 << w) != 0) {
+                    int from = valueOf(least, length[w], letters[w]);
+                    int to = valueOf(greatest, length[w], letters[w]);
+                    if (to < low[w] || from > high[w]) {
+                        return NONE;
                     }
-                }
-                ripeUpTo[depth] = listed;
-            }
-        }
-
-        private int ripeAt(int w) {
-            int depth = 0;
-            for (int i = 0; i < length[w]; i++) {
-                depth = Math.max(depth, depthOf[letterAt(length[w], letters[w], i)]);
-            }
-            return depth;
-        }
-
-        private boolean holdAt(int depth) {
-            for (int i = depth == 0 ? 0 : ripeUpTo[depth - 1]; i < ripeUpTo[depth]; i++) {
-                int w = ripe[i];
-                if (!within(valueOf(length[w], letters[w]), low[w], high[w])) {
-                    return false;
+                    still |= from < low[w] || to > high[w] ? 1 << w : 0;
                 }
             }
-            return true;
+            return still;
         }
 
-        private static int letterAt(int rowLength, int rowLetters, int i) {
-            int behind = rowLength - 1 - i;
-            return within(behind, 0, 3) ? rowLetters / ROWS[behind] % LETTERS : 0;
+        /** How many keys have the figures given so far; notes what each letter may be in them. */
+        private static int tally(Words words, int depth, int open) {
+            if (open == 0) {
+                return words.countRest();
+            }
+            int letter = depth < LETTERS ? words.freeLetterOf(open) : NONE;
+            int met = 0;
+            for (int f = 0; f < FIGURES && letter != NONE; f++) {
+                if ((words.used >> f & 1) == 0) {
+                    words.give(letter, f);
+                    int still = words.undecided(open);
+                    int ways = still == NONE ? 0 : tally(words, depth + 1, still);
+                    words.takeBack(letter);
+                    words.bits[letter] |= ways > 0 ? 1 << f : 0;
+                    met += ways;
+                }
+            }
+            return met;
         }
 
-        private int valueOf(int rowLength, int rowLetters) {
+        /** All words hold, so free letters may be any figures left: these keys need no trying. */
+        private int countRest() {
+            int ways = 1;
+            int left = FIGURES - Integer.bitCount(used);
+            for (int letter = 0; letter < LETTERS && left > FIGURES - LETTERS; letter++) {
+                if (isFree(letter)) {
+                    bits[letter] |= ALL_FIGURES & ~used;
+                    ways *= left;
+                    left--;
+                }
+            }
+            return ways;
+        }
+
+        /** Stops at the first key, whose figures stay. */
+        private static boolean seek(Words words, int depth, int open, int rowLength, int rowLetters,
+                boolean downwards) {
+            int letter = words.freeLetterIn(rowLength, rowLetters);
+            if (letter == NONE && open == 0) {
+                return true;
+            }
+            letter = letter == NONE ? words.freeLetterOf(open) : letter;
+            for (int i = 0; i < FIGURES && letter != NONE && depth < LETTERS; i++) {
+                int f = downwards ? FIGURES - 1 - i : i;
+                if ((words.used >> f & 1) == 0) {
+                    words.give(letter, f);
+                    int still = words.undecided(open);
+                    if (still != NONE && seek(words, depth + 1, still, rowLength, rowLetters, downwards)) {
+                        return true;
+                    }
+                    words.takeBack(letter);
+                }
+            }
+            return false;
+        }
+
+        /** The highest places tell most, so the first free letter of the first of these words. */
+        private int freeLetterOf(int open) {
+            for (int w = 0; w < size; w++) {
+                if ((open & 1 << w) != 0) {
+                    return freeLetterIn(length[w], letters[w]);
+                }
+            }
+            return NONE;
+        }
+
+        private int freeLetterIn(int rowLength, int rowLetters) {
+            for (int behind = rowLength - 1; behind >= 0; behind--) {
+                int letter = within(behind, 0, 3) ? rowLetters / ROWS[behind] % LETTERS : 0;
+                if (isFree(letter)) {
+                    return letter;
+                }
+            }
+            return NONE;
+        }
+
+        private static int valueOf(int[] figures, int rowLength, int rowLetters) {
             int value = 0;
             int place = 1;
             int rest = rowLetters;
             for (int i = 0; i < rowLength; i++) {
-                value += place * figure[rest % LETTERS];
+                value += place * figures[rest % LETTERS];
                 rest /= LETTERS;
                 place *= 10;
             }
             return value;
-        }
-
-        /** Notes every key of the letters that words use. */
-        private static void tally(Words words, int depth, int used) {
-            if (depth >= words.ordered || depth >= LETTERS) {
-                words.note(used);
-                return;
-            }
-            for (int f = 0; f < FIGURES; f++) {
-                if ((used >> f & 1) == 0) {
-                    words.figure[words.order[depth]] = f;
-                    if (words.holdAt(depth)) {
-                        tally(words, depth + 1, used | 1 << f);
-                    }
-                }
-            }
-        }
-
-        /** Letters that no word uses may be any figures that are left. */
-        private void note(int used) {
-            int ways = 1;
-            for (int i = ordered; i < LETTERS; i++) {
-                ways *= FIGURES - i;
-            }
-            found += ways;
-            for (int letter = 0; letter < LETTERS; letter++) {
-                bits[letter] |= depthOf[letter] == NONE ? ALL_FIGURES & ~used : 1 << figure[letter];
-            }
-        }
-
-        /** Stops at the first key, whose figures stay. */
-        private static boolean seek(Words words, int depth, int used, boolean downwards) {
-            if (depth >= words.ordered || depth >= LETTERS) {
-                return true;
-            }
-            for (int i = 0; i < FIGURES; i++) {
-                int f = downwards ? FIGURES - 1 - i : i;
-                if ((used >> f & 1) == 0) {
-                    words.figure[words.order[depth]] = f;
-                    if (words.holdAt(depth) && seek(words, depth + 1, used | 1 << f, downwards)) {
-                        return true;
-                    }
-                }
-            }
-            return false;
         }
 
         long mix(long h) {
