@@ -367,6 +367,15 @@ public final class EdgesOfBooksTest {
         Bench.answers(x, 0, "held", 1, 1, 1);
     }
 
+    static void promise28WhatManyWasThroughNone() {
+        TankNumbers x = new TankNumbers();
+        Bench.answers(x, NONE, "book", 2, 150, 9, 9);
+        Bench.answers(x, 150, "book", 2, NONE, 8, 8);
+        Bench.answers(x, NONE, "book", 2, NONE, 7, 7);
+        Bench.answers(x, NONE, "book", 2, 1, 6, 6);
+        Bench.answers(x, 1, "book", 2, 1, 5, 5);
+    }
+
     static void promise28AllSixHaveOne() {
         TankNumbers x = new TankNumbers();
         for (int maker = 0; maker <= 5; maker++) {
@@ -704,6 +713,16 @@ public final class EdgesOfBooksTest {
         int[] books = NO_BOOKS.clone();
         books[4] = 9999;
         books[5] = 99;
+        long want = digestOf(new int[5], new int[0], NO_MAKERS, 150, new int[0], NO_FRONTS, joined(books, 0, 0, 1, 1));
+        Bench.due("digest()", x.digest(), want);
+    }
+
+    static void promise33FirstAndStepAsToldWhereManyNeverWas() {
+        TankNumbers x = new TankNumbers();
+        x.book(4, NONE, 5, 3);
+        x.book(0, NONE, 0, 1);
+        x.book(0, NONE, 0, 100);
+        int[] books = {-1, 0, 1, -1, 0, 0, -1, 0, 0, -1, 0, 0, -1, 5, 3, -1, 0, 0};
         long want = digestOf(new int[5], new int[0], NO_MAKERS, 150, new int[0], NO_FRONTS, joined(books, 0, 0, 1, 1));
         Bench.due("digest()", x.digest(), want);
     }

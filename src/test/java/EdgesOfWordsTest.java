@@ -362,6 +362,35 @@ public final class EdgesOfWordsTest {
         Bench.answers(x, 0, "keys");
     }
 
+    static void promise17WordsThatHoldByAnyFigures() {
+        TankNumbers x = withWord(4, 51, 0, 9999);
+        x.word(2, 29, 0, 99);
+        Bench.answers(x, 151200, "keys");
+        x.word(1, 5, 9, 9);
+        Bench.answers(x, 15120, "keys");
+        x.word(4, 51, 124, 9999);
+        Bench.answers(x, 15120 - 5, "keys");
+    }
+
+    static void promise17AllTwelveAreHeld() {
+        TankNumbers x = new TankNumbers();
+        for (int i = 0; i < 11; i++) {
+            x.word(4, 51, i, 9999 - i);
+        }
+        Bench.answers(x, 151200, "keys");
+        x.word(4, 5 * 216 + 4 * 36 + 3 * 6 + 2, 9876, 9876);
+        Bench.answers(x, 6 * 5, "keys");
+    }
+
+    static void promise17AcrossAFirstFigure() {
+        TankNumbers x = withWord(2, 1, 19, 20);
+        Bench.answers(x, 2 * 1680, "keys");
+        Bench.answers(x, 2 | 4, "may", 0);
+        Bench.answers(x, 1 | 512, "may", 1);
+        Bench.answers(x, 19, "reads", 2, 1, 0);
+        Bench.answers(x, 20, "reads", 2, 1, 1);
+    }
+
     static void promise17AskedAgain() {
         TankNumbers x = withWord(1, 0, 0, 4);
         Bench.answers(x, 5 * 15120, "keys");
@@ -390,6 +419,29 @@ public final class EdgesOfWordsTest {
             TankNumbers x = withWord(1, 3, figure, figure);
             Bench.answers(x, 1 << figure, "may", 3);
             Bench.answers(x, 1023 - (1 << figure), "may", 4);
+        }
+    }
+
+    static void promise18LettersBehindAPlaceThatDecides() {
+        TankNumbers x = withWord(2, 1, 50, 99);
+        Bench.answers(x, 5 * 15120, "keys");
+        Bench.answers(x, 992, "may", 0);
+        Bench.answers(x, 1023, "may", 1);
+        Bench.answers(x, 1023, "may", 5);
+        x.word(1, 5, 9, 9);
+        Bench.answers(x, 480, "may", 0);
+        Bench.answers(x, 511, "may", 1);
+        Bench.answers(x, 511, "may", 3);
+        Bench.answers(x, 512, "may", 5);
+    }
+
+    static void promise18OneKeyAlone() {
+        TankNumbers x = new TankNumbers();
+        for (int letter = 0; letter <= 5; letter++) {
+            x.word(1, letter, 2 + letter, 2 + letter);
+        }
+        for (int letter = 0; letter <= 5; letter++) {
+            Bench.answers(x, 4 << letter, "may", letter);
         }
     }
 
@@ -462,6 +514,16 @@ public final class EdgesOfWordsTest {
         Bench.answers(x, 98, "reads", 2, 1, 1);
         Bench.answers(x, 10, "reads", 2, 6, 0);
         Bench.answers(x, 1, "reads", 2, 1, 0);
+    }
+
+    static void promise19ARowWithoutLettersOfWords() {
+        TankNumbers x = withWord(2, 29, 98, 98);
+        Bench.answers(x, 7654, "reads", 4, 51, 1);
+        Bench.answers(x, 123, "reads", 4, 51, 0);
+        x.word(2, 29, 98, 98);
+        x.word(2, 1, 0, 1);
+        Bench.answers(x, 1, "reads", 2, 1, 1);
+        Bench.answers(x, 7654 / 100, "reads", 2, 15, 1);
     }
 
     static void promise19WithoutKeysNone() {
